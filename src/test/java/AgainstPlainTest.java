@@ -12,7 +12,7 @@ public final class AgainstPlainTest {
     private static int compared = 0;
 
     public static void main(String[] args) {
-        for (int seed = 0; seed < 1500; seed++) {
+        for (int seed = 0; seed < 1200; seed++) {
             playRun(seed);
         }
         System.out.println(compared + " answers compared, " + wrong + " wrong");
@@ -37,31 +37,30 @@ public final class AgainstPlainTest {
         LayerDrawing x = new LayerDrawing();
         Plain plain = new Plain();
         int kind = seed % 6;
-        int calls = build(seed, random, kind, x, plain);
-        calls += ask(seed, random, x, plain);
+        int before = compared;
+        build(seed, random, kind, x, plain);
+        askAll(seed, random, x, plain);
         for (int change = 0; change < 3; change++) {
-            calls += change(seed, random, x, plain);
-            calls += askSome(seed, random, x, plain, 15);
+            change(seed, random, x, plain);
+            askSome(seed, random, x, plain, 15);
         }
         due(seed, "clear()", x.clear(), plain.clear());
-        calls += 1 + askSome(seed, random, x, plain, 3);
-        calls += build(seed, random, (kind + 1) % 6, x, plain);
-        calls += askSome(seed, random, x, plain, 60);
-        if (calls > 512) {
-            throw new IllegalStateException("the document promises nothing after 512 calls: " + calls);
+        askSome(seed, random, x, plain, 3);
+        build(seed, random, (kind + 1) % 6, x, plain);
+        askSome(seed, random, x, plain, 60);
+        if (compared - before > 512) {
+            throw new IllegalStateException("nothing is promised after 512 calls");
         }
     }
 
-    private static int build(int seed, Random random, int kind, LayerDrawing x, Plain plain) {
+    private static void build(int seed, Random random, int kind, LayerDrawing x, Plain plain) {
         int nodes = kind == 0 ? random.nextInt(5) : kind == 1 ? 6 : kind == 5 ? 10 + random.nextInt(4) : 2 + random.nextInt(11);
         for (int i = 0; i < nodes; i++) {
             int w = random.nextInt(20) == 0 ? random.nextInt(14) - 2 : 1 + random.nextInt(9);
             due(seed, "node(" + w + ")", x.node(w), plain.node(w));
         }
         int n = plain.nodes;
-        int arcs = 0;
         if (kind == 2) {
-            arcs = n - 1;
             int[] at = shuffled(random, n);
             for (int i = 1; i < n; i++) {
                 addArc(seed, x, plain, at[random.nextInt(Math.min(i, 1 + random.nextInt(4)))], at[i]);
@@ -73,9 +72,8 @@ public final class AgainstPlainTest {
             for (int i = 0; i < 12; i++) {
                 addArc(seed, x, plain, random.nextInt(4), n - 1 - random.nextInt(5));
             }
-            arcs = n + 11;
         } else {
-            arcs = kind == 3 ? random.nextInt(28) : random.nextInt(2 * n + 1);
+            int arcs = kind == 3 ? random.nextInt(28) : random.nextInt(2 * n + 1);
             for (int i = 0; i < arcs; i++) {
                 int from = random.nextInt(n + 1);
                 int to = random.nextInt(n + 1);
@@ -83,7 +81,6 @@ public final class AgainstPlainTest {
                 addArc(seed, x, plain, swap ? to : from, swap ? from : to);
             }
         }
-        return nodes + arcs;
     }
 
     private static int[] shuffled(Random random, int n) {
@@ -100,7 +97,7 @@ public final class AgainstPlainTest {
         due(seed, "arc(" + from + ", " + to + ")", x.arc(from, to), plain.arc(from, to));
     }
 
-    private static int change(int seed, Random random, LayerDrawing x, Plain plain) {
+    private static void change(int seed, Random random, LayerDrawing x, Plain plain) {
         int a = random.nextInt(26) - 1;
         int v = random.nextInt(14) - 1;
         int u = random.nextInt(13);
@@ -111,10 +108,9 @@ public final class AgainstPlainTest {
             case 2: addArc(seed, x, plain, u, v); break;
             default: due(seed, "node(" + w + ")", x.node(w), plain.node(w)); break;
         }
-        return 1;
     }
 
-    private static int ask(int seed, Random random, LayerDrawing x, Plain plain) {
+    private static void askAll(int seed, Random random, LayerDrawing x, Plain plain) {
         due(seed, "turns()", x.turns(), plain.turns());
         due(seed, "layers()", x.layers(), plain.layers());
         due(seed, "length()", x.length(), plain.length());
@@ -145,14 +141,12 @@ public final class AgainstPlainTest {
             int k = random.nextInt(4);
             due(seed, "route(" + a + ", " + k + ")", x.route(a, k), plain.route(a, k));
         }
-        return 226;
     }
 
-    private static int askSome(int seed, Random random, LayerDrawing x, Plain plain, int times) {
+    private static void askSome(int seed, Random random, LayerDrawing x, Plain plain, int times) {
         for (int t = 0; t < times; t++) {
             askOne(seed, random, x, plain);
         }
-        return times;
     }
 
     private static void askOne(int seed, Random random, LayerDrawing x, Plain plain) {
