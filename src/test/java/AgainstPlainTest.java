@@ -5,7 +5,8 @@ import java.util.Random;
 
 /**
  * Long runs of calls, always the same ones, whose answers are compared with those of a plain
- * model: one that follows the document's words by trying all that there is.
+ * model. It follows the document's words by trying all that there is, but for layers of more
+ * than 6 nodes, which are too many to try: there sets of nodes are moved until none helps.
  */
 public final class AgainstPlainTest {
     private static int wrong = 0;
