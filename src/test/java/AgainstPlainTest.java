@@ -16,6 +16,9 @@ public final class AgainstPlainTest {
         for (int seed = 0; seed < 1200; seed++) {
             playRun(seed);
         }
+        for (int seed = 0; seed < 20000; seed++) {
+            playTree(seed);
+        }
         System.out.println(compared + " answers compared, " + wrong + " wrong");
         if (wrong != 0) {
             System.exit(1);
@@ -51,6 +54,25 @@ public final class AgainstPlainTest {
         askSome(seed, random, x, plain, 60);
         if (compared - before > 512) {
             throw new IllegalStateException("nothing is promised after 512 calls");
+        }
+    }
+
+    /** Trees alone, half of their nodes very wide, so that parts reach over and under others. */
+    private static void playTree(int seed) {
+        Random random = new Random(seed);
+        LayerDrawing x = new LayerDrawing();
+        Plain plain = new Plain();
+        int n = 1 + random.nextInt(12);
+        for (int i = 0; i < n; i++) {
+            int w = random.nextBoolean() ? 9 : 1 + random.nextInt(9);
+            due(seed, "node(" + w + ")", x.node(w), plain.node(w));
+        }
+        int[] at = shuffled(random, n);
+        for (int i = 1; i < n; i++) {
+            addArc(seed, x, plain, at[random.nextInt(i)], at[i]);
+        }
+        for (int v = 0; v <= n; v++) {
+            due(seed, "tidy(" + v + ")", x.tidy(v), plain.tidy(v));
         }
     }
 
@@ -205,6 +227,7 @@ public final class AgainstPlainTest {
         int made = 0;
         final int[] w = new int[12];
         List<Arc> arcs = new ArrayList<>();
+        boolean knownTurned = false;
         boolean known = false;
         int turns;
         int[] layer;
@@ -216,6 +239,7 @@ public final class AgainstPlainTest {
         int bendCount;
 
         void changed() {
+            knownTurned = false;
             known = false;
             ran = false;
         }
@@ -272,9 +296,7 @@ public final class AgainstPlainTest {
         void know() {
             if (known) return;
             known = true;
-            for (Arc a : arcs) a.turned = false;
-            turns = 0;
-            while (!turnSome(0, turns)) turns++;
+            knowTurned();
             layer = bestLayers();
             bendCount = 0;
             for (Arc a : arcs) {
@@ -285,6 +307,14 @@ public final class AgainstPlainTest {
                 }
                 a.items.add(a.below());
             }
+        }
+
+        void knowTurned() {
+            if (knownTurned) return;
+            knownTurned = true;
+            for (Arc a : arcs) a.turned = false;
+            turns = 0;
+            while (!turnSome(0, turns)) turns++;
         }
 
         /** Sets of so many arcs, the first first: those with the least number come before. */
@@ -612,7 +642,7 @@ public final class AgainstPlainTest {
 
         int tidy(int v) {
             if (v < 0 || v >= nodes) return -1;
-            know();
+            knowTurned();
             int root = -1;
             for (int u = 0; u < nodes; u++) {
                 int to = 0;
@@ -639,7 +669,8 @@ public final class AgainstPlainTest {
             Arrays.fill(right, Integer.MIN_VALUE);
             for (int child : children) {
                 put(child, left);
-                int shift = -10_000;
+                // Twelve nodes of width 9 with gaps take less: here no part fits yet.
+                int shift = -200;
                 while (!fits(child, 0, shift, left, right)) shift++;
                 shift(child, 0, shift, left, right);
             }

@@ -264,6 +264,9 @@ public final class EdgesTest {
             "5 * node 1, arc 2 4, arc 0 3, arc 0 1, arc 1 2, arc 2 3, arc 3 4, bends = 3, run 0",
             "route 0 1 = 12, route 1 1 = 13, route 1 2 = 14, item 1 1 = 13, item 2 1 = 14, item 3 1 = 12",
             "drop 0 = 5, run 0, route 0 0 = -1, route 1 1 = 12, route 1 2 = 13, place 14 = -1");
+        edge("one in each LAYER between: the most in one LAYER",
+            "3 * node 1, arc 0 1, arc 1 2, 22 * arc 0 2, arc 0 2 = -4, bends = 22, length = 46, run 20 = 0, count 1 = 23",
+            "item 1 0 = 1, item 1 22 = 33, item 1 23 = -1, place 33 = 44, place 34 = -1, place 2 = 22, wide = 45, route 23 1 = 33");
         edge("of a TURNED ARC from above on",
             "4 * node 1, arc 0 1, arc 1 2, arc 2 3, arc 3 0, turned 0 = 1, bends = 2, run 0",
             "route 0 0 = 1, route 0 1 = 12, route 0 2 = 13, route 0 3 = 0, route 0 4 = -1, item 1 1 = 12, item 2 1 = 13");
@@ -366,6 +369,10 @@ public final class EdgesTest {
         edge("each NODE without children: its left end is 0", "node 9, tidy 0 = 0, width 0 1, tidy 0 = 0, tidy 1 = -1");
         edge("the first at 0",
             "4 * node 1, width 1 9, arc 0 1, arc 1 2, arc 0 3, tidy 1 = 0, tidy 2 = 4, tidy 3 = 10, tidy 0 = 7");
+        // Node 4 reaches left of its child, but the first part, node 3, is at 0 all the same.
+        edge("the first at 0: whatever the next ones reach",
+            "node 9, node 5, node 3, node 9, node 9, node 6, arc 0 1, arc 0 2, arc 2 3, arc 2 4, arc 4 5",
+            "tidy 0 = 2, tidy 1 = 0, tidy 2 = 8, tidy 3 = 0, tidy 4 = 10, tidy 5 = 11");
         // Nodes 2 and 4 are in one depth with nothing between; 3 and 5 are nearer.
         edge("in each depth that both have, 1 behind, at least",
             "6 * node 1, arc 0 1, arc 1 2, arc 0 3, arc 3 4, width 2 3, tidy 5 = -3, arc 4 5",
@@ -467,7 +474,9 @@ public final class EdgesTest {
     private static void round() {
         edge("0 at first", "4 * node 1, arc 0 2, arc 1 3, run 20 = 0, round = 0, drop 0, arc 1 2, drop 1, arc 0 3, run 0 = 1, round = 0, run 1 = 0, round = 1");
         edge("-3 there was no run() since the GRAPH was changed",
-            "round = -3, node 1, round = -3, run 5, round = 0, width 0 1, round = -3, run 21, round = -3, run 5, round = 0, clear, round = -3");
+            "round = -3, node 1, round = -3, run 5, round = 0, width 0 2, round = -3, run 21, round = -3, run 5, round = 0, clear, round = -3");
+        edge("the GRAPH was changed: as README.md reads it, by every call that may change it and is not refused",
+            "node 4, run 0, round = 0, width 0 4 = 4, round = -3, clear, run 0, round = 0, clear = 0, round = -3");
     }
 
     private static void countAndItem() {
@@ -503,6 +512,8 @@ public final class EdgesTest {
         edge("the fewest CROSSINGS of all orders: the most ITEMS in a LAYER",
             "8 * node 1, arc 0 7, arc 1 6, arc 2 7, arc 3 6, arc 4 7, arc 5 6, run 0 = 6, count 0 = 6, fewest = 0, arc 0 6, arc 5 7, run 0, fewest = 1",
             "clear, 8 * node 1, arc 0 7, arc 1 6, arc 0 5, arc 1 4, arc 0 3, arc 1 2, run 0 = 6, count 1 = 6, fewest = 0");
+        edge("the fewest CROSSINGS of all orders: the most LAYERS",
+            CHAIN_OF_12, "run 0, fewest = 0, arc 0 11, run 0 = 0, fewest = 0, arc 0 10, run 0, fewest = -4");
         edge("-3 no run()", "fewest = -3, node 1, fewest = -3, run 0, fewest = 0, fewest = 0, width 0 2, fewest = -3");
     }
 
